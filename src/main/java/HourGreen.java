@@ -473,7 +473,7 @@ public final class HourGreen {
         }
 
         boolean lies(int h) {
-            return placeOf(h) != PORCH;
+            return hasHour(h) && place[h] != PORCH;
         }
 
         boolean isFrost() {
@@ -511,7 +511,11 @@ public final class HourGreen {
         }
 
         int needOf(int h) {
-            return lies(h) ? needAbove(kindOf(hourAt(placeOf(h), depthOf(h) - 1)), kindOf(h)) : 0;
+            if (!hasHour(h)) {
+                return 0;
+            }
+            int beneath = hourAt(place[h], depth[h] - 1);
+            return needAbove(hasHour(beneath) ? kind[beneath] : NO_KIND, kind[h]);
         }
 
         int freeIn(int p) {

@@ -53,6 +53,12 @@ public final class AheadTest {
         for (int h = 0; h < want.length; h++) {
             due.is("16 above(" + h + ")", g.above(h), want[h]);
         }
+        g.up(0);
+        g.put(0, 1);
+        due.is("16 hour 0 above", g.above(1), 9);
+        due.is("16 hour 0 on top", g.above(0), 0);
+        due.is("11 hour 0 is stirred", g.up(1), 2);
+        due.is("11 it is one less deep", g.hour(0, 3), 1);
         due.is("16 above(-1)", g.above(-1), HourGreen.BAD);
         due.is("16 above(6)", g.above(6), HourGreen.BAD);
     }
@@ -139,6 +145,7 @@ public final class AheadTest {
         due.is("19 cheap(1, 2)", g.cheap(1, 2), HourGreen.BAD);
         due.is("19 cheap(1, -1)", g.cheap(1, -1), HourGreen.BAD);
         due.is("19 BAD ahead of NONE", g.cheap(140, 2), HourGreen.BAD);
+        cheap(Due.laid("g9;h0,4,0;"), 4, 1, 0);
         HourGreen flat = Due.laid("g9;g9;h0,1,0;h0,1,0;h0,1,0;h0,1,1;h0,2,1;");
         // All three of plot 0 would be lower as bits, but two hours are fewer.
         cheap(flat, 3, 20, 0);

@@ -101,6 +101,20 @@ public final class ChanceTest {
         due.is("27 z 1", one.decade(1, 1, 1), 5);
         // It lies, and 11401 by 64 is 178, modulo 4 is 2: it is left.
         due.is("27 not had up", Due.laid("g9;h1,7,0;h1,5,0;h1,3,0;").decade(1, 1, 2), 0);
+        due.is("27 one year is one", Due.laid("g9;g9;h1,3,0;h0,7,1;").decade(1, 1, 0), 2);
+        due.is("27 one plot", Due.laid("g9;w1,7;").decade(1, 1, 0), 1);
+        // 11401 by 8 is 1425, plot 0 of 5, where rabbits are.
+        due.is("27 the plot", Due.laid("g9;g9;g9;g9;g9;w0,7;").decade(1, 1, 0), 0);
+        // z 8: x 63353, squared 4013602609, modulo 65521 is 48233, by 2 is 24116: hour 0 of 2; by 64 is 376.
+        HourGreen two = Due.laid("g9;h1,7,0;h1,5,0;");
+        due.is("27 z 8", two.decade(8, 1, 1), 5);
+        due.is("27 z 8", two.decade(8, 1, 2), 1);
+        // z 9999: x 79182082, squared 6269802109854724, modulo 65521 is 51303, by 2 is 25651: hour 1; by 64 is 400.
+        due.is("27 z 9999", two.decade(9999, 1, 1), 7);
+        due.is("27 z 9999", two.decade(9999, 1, 2), 0);
+        HourGreen stirred = Due.laid("g9;h1,7,0;h1,5,0;h1,3,0;");
+        stirred.up(0);
+        due.is("27 stirred ahead of it", stirred.decade(1, 1, 2), 0);
     }
 
     private static void decadeWrong() {

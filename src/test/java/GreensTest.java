@@ -11,6 +11,7 @@ public final class GreensTest {
         faultOfRoom();
         lay();
         layClearsAll();
+        layAfterAsking();
         plot();
         hour();
         fits();
@@ -213,6 +214,27 @@ public final class GreensTest {
         due.is("5 undo", g.undo(), HourGreen.NO);
         due.is("5 back", g.back(), HourGreen.NO);
         due.is("5 seen", g.seen(1, 0, 1), 1);
+    }
+
+    /** What was asked ahead leaves nothing behind in what is laid then. */
+    private static void layAfterAsking() {
+        HourGreen g = new HourGreen();
+        Due.write(g, "g4;h0,3,0;h0,2,0;f0;");
+        due.is("4 fault", g.fault(), HourGreen.NONE);
+        due.is("4 fault once more", g.fault(), HourGreen.NONE);
+        g.up(0);
+        g.pass(1);
+        g.behind(60, 0);
+        due.is("5 lay", g.lay(), 2);
+        int[] counts = {1, 2, 0, 2, 5, 1, 0, 0, 0, 0, 20};
+        for (int what = 0; what < counts.length; what++) {
+            due.is("5 count(" + what + ")", g.count(what), counts[what]);
+        }
+        g.wipe();
+        Due.write(g, "g4;w0,3;");
+        due.is("4 fault", g.fault(), HourGreen.NONE);
+        due.is("5 lay", g.lay(), 1);
+        due.is("5 no frost", g.count(5), 0);
     }
 
     private static void plot() {
