@@ -55,7 +55,8 @@ public final class LanguageTest {
             if (!Modifier.isPrivate(f.getModifiers()) && !f.isSynthetic()) {
                 fields.add(f.getName());
             }
-            hold("5: static fields are final", !Modifier.isStatic(f.getModifiers()) || Modifier.isFinal(f.getModifiers()));
+            boolean isStatic = Modifier.isStatic(f.getModifiers());
+            hold("5: static fields are final", !isStatic || Modifier.isFinal(f.getModifiers()));
         }
         hold("1: the constants " + fields, fields.equals(new TreeSet<>(Arrays.asList("BAD", "NO", "FULL", "NONE"))));
         Constructor<?>[] makers = HourGreen.class.getDeclaredConstructors();
@@ -67,7 +68,8 @@ public final class LanguageTest {
         Class<?>[] inner = HourGreen.class.getDeclaredClasses();
         hold("11: at most twelve classes", inner.length < 12);
         for (Class<?> c : inner) {
-            hold("1: static " + c.getName(), Modifier.isStatic(c.getModifiers()) && !Modifier.isPublic(c.getModifiers()));
+            hold("1: static " + c.getName(), Modifier.isStatic(c.getModifiers()));
+            hold("1: not public " + c.getName(), !Modifier.isPublic(c.getModifiers()));
             hold("11: fields of " + c.getName(), c.getDeclaredFields().length <= 20);
             for (Method m : c.getDeclaredMethods()) {
                 hold("11: parameters of " + m.getName(), m.getParameterCount() <= 7);
@@ -108,14 +110,13 @@ public final class LanguageTest {
         if (!threads.isThreadAllocatedMemorySupported()) {
             return;
         }
-        long self = Thread.currentThread().getId();
         HourGreen g = Due.laid("g1;g1;g1;g1;g1;w2,4;w2,5;w2,2;w0,1;w2,14;w1,16;w1,10;");
         everyCall(g);
-        long before = threads.getThreadAllocatedBytes(self);
+        long before = threads.getCurrentThreadAllocatedBytes();
         for (int i = 0; i < 100; i++) {
             everyCall(g);
         }
-        long made = threads.getThreadAllocatedBytes(self) - before;
+        long made = threads.getCurrentThreadAllocatedBytes() - before;
         // The measuring makes a little itself; one object in each round would be 1,600 bytes at least.
         hold("12: calls make no objects, but " + made + " bytes were made", made < 1600);
     }
