@@ -1,3 +1,7 @@
+import java.util.Arrays;
+import java.util.function.Supplier;
+import java.util.function.ToIntFunction;
+
 /** Counts the answers of one test that are not as due. */
 final class Due {
     private int wrong;
@@ -6,6 +10,16 @@ final class Due {
         if (got != want) {
             wrong++;
             System.out.println(call + " answered " + got + ", due is " + want);
+        }
+    }
+
+    /** The call answers so, and all that the green answers is as on a twin that was never called. */
+    void still(String call, Supplier<HourGreen> made, ToIntFunction<HourGreen> called, int want) {
+        HourGreen green = made.get();
+        is(call, called.applyAsInt(green), want);
+        if (!Arrays.equals(Whole.of(green), Whole.of(made.get()))) {
+            wrong++;
+            System.out.println(call + " changed something");
         }
     }
 
