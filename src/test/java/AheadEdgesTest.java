@@ -1,6 +1,6 @@
 import java.util.function.ToIntFunction;
 
-/** The edges of what comes and what is best, promises 14 to 21: each test says which of the document's words it holds. */
+/** The edges of what comes and what is best, promises 14 to 21, by the document's words. */
 public final class AheadEdgesTest {
     private static final Due due = new Due();
     private static final int NONE = HourGreen.NONE, NO = HourGreen.NO, BAD = HourGreen.BAD;

@@ -56,7 +56,7 @@ public final class MoundEdgesTest {
         due.is("6 BAD ahead of NONE", g.plot(3, 3), BAD);
     }
 
-    /** "the PLOT (2; NONE: the PORCH), how many lie beneath it (3; NONE), ROOM that it needs where it lies (4; NONE)". */
+    /** "the PLOT (2; NONE: the PORCH), how many lie beneath it (3; NONE), ROOM that it needs .. (4; NONE)". */
     private static void theLowestAndTheHighestHour() {
         HourGreen g = Due.laid("g9;" + "h0,1,0;".repeat(6) + "w1,20;");
         due.is("7 beneath the lowest", g.hour(0, 3), 0);

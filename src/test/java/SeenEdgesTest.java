@@ -393,8 +393,8 @@ public final class SeenEdgesTest {
     private static void decadesChangeNothing() {
         for (int what = 0; what <= 2; what++) {
             int it = what;
-            HourGreen twin = stirred();
-            due.still("27 what " + what, SeenEdgesTest::stirred, g -> g.decade(9999, 60, it), twin.decade(9999, 60, it));
+            int want = stirred().decade(9999, 60, it);
+            due.still("27 what " + what, SeenEdgesTest::stirred, g -> g.decade(9999, 60, it), want);
         }
         HourGreen g = stirred();
         due.is("30 stirred ahead of it", g.count(6), 3);
