@@ -705,12 +705,12 @@ public final class HourGreen {
         /** The set of hours to have up for a worth of v or more, 0 if there is none. */
         int cheapestSet(int v) {
             int best = 0;
-            int leastCost = Integer.MAX_VALUE;
+            int leastCost = 0;
             for (int set = 1; set < setCount(); set++) {
                 if (worthOfSet(set) >= v && allLie(set)) {
                     // A set has less than 8 hours, so those stirred always weigh more than those taken.
                     int cost = stirOf(set) * 8 + Integer.bitCount(set);
-                    if (cost < leastCost) {
+                    if (best == 0 || cost < leastCost) {
                         leastCost = cost;
                         best = set;
                     }

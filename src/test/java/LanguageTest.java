@@ -21,6 +21,8 @@ public final class LanguageTest {
         "dig(1)", "undo(0)", "out(1)", "behind(2)", "above(1)", "packs(1)", "stir(1)", "cheap(2)", "deeper(1)",
         "years(1)", "seen(3)", "forget(0)", "plots(1)", "kinds(1)", "likely(4)", "decade(3)", "keep(0)", "back(0)",
         "count(1)"));
+    /** What the class uses of the library that rule 4 leaves. */
+    private static final Set<String> LIBRARY = Set.of("String", "Integer.bitCount(", "Math.max(");
     private static int wrong;
 
     public static void main(String[] args) throws Exception {
@@ -90,6 +92,11 @@ public final class LanguageTest {
                 ? Pattern.compile("\\b" + word + "\\b|Exact\\b").matcher(code).find()
                 : code.contains(word);
             hold("no " + word + " in the class", !there);
+        }
+        Matcher used = Pattern.compile("\\b(String|StringBuilder|Integer|Long|Math|Arrays|Character|Boolean|List|ArrayList"
+            + "|Object|Short|Byte)\\b(\\.\\w+\\(?)?").matcher(code);
+        while (used.find()) {
+            hold("4: " + used.group() + " in the library", LIBRARY.contains(used.group()));
         }
         hold("11: methods of sixty lines at most " + longMethods(code), longMethods(code).isEmpty());
     }
